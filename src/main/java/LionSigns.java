@@ -492,16 +492,13 @@ public final class LionSigns {
         int year;
         int secret;
         final int[] jaws = new int[LIONS];
-        // How each turned latest: what is read of it.
+        // How each turned latest, for those who read it; no more than a note within a YEAR.
         final int[] turns = new int[LIONS];
 
         void copyFrom(Lions other) {
             year = other.year;
             secret = other.secret;
-            for (int lion = 0; lion < LIONS; lion++) {
-                jaws[lion] = other.jaws[lion];
-                turns[lion] = other.turns[lion];
-            }
+            System.arraycopy(other.jaws, 0, jaws, 0, LIONS);
         }
 
         static int signsOf(int lion, int secret, int event) {
