@@ -416,6 +416,17 @@ public final class PromiseTests {
         due("law(1, 70, 9, 7)", x.law(1, 70, 9, 7), 7);
         due("law(0, max, -1, 1) wraps", x.law(0, Integer.MAX_VALUE, -1, 1), 0);
         due("law(0, 5, -100, 1)", x.law(0, 5, -100, 1), 30);
+        // Beside one another, these may not be taken for one and the same.
+        read(x, 0, "b+e*2+y*3");
+        read(x, 1, "r+j*2+y*3");
+        int[][] asked = {{9, 0, 0}, {0, 1, 0}, {0, 16, 0}, {0, 0, 1}, {0, 0, 8}, {65, 0, 0}, {66, 0, 0}, {0, 10, 0}, {0, 0, 0}};
+        for (int round = 0; round < 2; round++) {
+            for (int[] one : asked) {
+                int sum = one[0] + 2 * one[1] + 3 * one[2];
+                due("law(0, " + one[0] + ", ..)", x.law(0, one[0], one[1], one[2]), Math.min(30, sum));
+                due("law(1, " + one[0] + ", ..)", x.law(1, one[0], one[1], one[2]), Math.min(40, sum));
+            }
+        }
         due("law(2, ..)", x.law(2, 0, 0, 0), BEYOND);
         due("law(-1, ..)", x.law(-1, 0, 0, 0), BEYOND);
     }
