@@ -1008,7 +1008,7 @@ public final class LionSigns {
         }
     }
 
-    /** VOICES, and THE TRACE of the latest that was answered. */
+    /** VOICES, and THE TRACE of the latest, also of one that parted. */
     private static final class Voices {
         static final int STOPS = 0;
         static final int READS = 1;
@@ -1030,8 +1030,6 @@ public final class LionSigns {
         int k;
         int m;
         boolean parted;
-        final int[] begun = new int[TRACED];
-        int begunCount;
         final int[] trace = new int[TRACED];
         int traced;
 
@@ -1041,14 +1039,8 @@ public final class LionSigns {
             k = number;
             m = readerM;
             parted = false;
-            begunCount = 0;
-            int answer = own(voice, x, 0);
-            // PARTED is an ERROR, which changes nothing: THE TRACE stays then.
-            if (!parted) {
-                System.arraycopy(begun, 0, trace, 0, begunCount);
-                traced = begunCount;
-            }
-            return answer;
+            traced = 0;
+            return own(voice, x, 0);
         }
 
         private int own(int voice, int x, int depth) {
@@ -1066,9 +1058,9 @@ public final class LionSigns {
                 return 0;
             }
             int body = BODIES[place];
-            if (begunCount < TRACED) {
-                begun[begunCount] = body;
-                begunCount++;
+            if (traced < TRACED) {
+                trace[traced] = body;
+                traced++;
             }
             return run(body, x, depth + 1);
         }

@@ -833,24 +833,33 @@ public final class PromiseTests {
             x.become(1, 10 * kind + 5);
             for (int voice = 0; voice < 4; voice++) {
                 x.voice(1, voice, 7);
-                int[] bodies = all[kind][voice];
-                for (int i = 0; i < bodies.length; i++) {
-                    due("body(" + i + ") of " + kind + ", " + voice, x.body(i), bodies[i]);
-                }
-                due("body behind the last of " + kind + ", " + voice, x.body(bodies.length), NONE);
-                due("count(8)", x.count(8), bodies.length);
+                traced(x, "of KIND " + kind + ", voice " + voice, all[kind][voice]);
             }
         }
         due("body(-1)", x.body(-1), NONE);
-        // An ERROR changes nothing: THE TRACE is that of the latest voice() that answered.
-        x.become(1, 14);
+        // Of one that parts: what began stands, what would come behind it doesn't begin.
+        int[][] parting = {{13}, {21, 13}, {13}, {13}, {21, 13}, {13}, {13}};
+        for (int kind = 0; kind < 7; kind++) {
+            x.become(1, 10 * kind + 1);
+            x.voice(1, 2, 7);
+            due("voice(1, 3, 7) of KIND " + kind, x.voice(1, 3, 7), PARTED);
+            traced(x, "of KIND " + kind + " that parts", parting[kind]);
+        }
+        // One that isn't asked at all changes nothing.
+        x.become(1, 10);
         x.voice(1, 1, 7);
-        x.become(1, 11);
-        due("voice(1, 3, 7)", x.voice(1, 3, 7), PARTED);
         due("voice(1, 4, 7)", x.voice(1, 4, 7), BEYOND);
-        due("body(0)", x.body(0), 11);
-        due("body(2)", x.body(2), 10);
-        due("count(8)", x.count(8), 3);
+        due("voice(2, 0, 7)", x.voice(2, 0, 7), BEYOND);
+        traced(x, "behind BEYOND", 11, 20, 10);
+    }
+
+    /** That these BODIES are THE TRACE, and no others. */
+    private static void traced(LionSigns x, String which, int... bodies) {
+        due("count(8) " + which, x.count(8), bodies.length);
+        for (int i = 0; i < bodies.length; i++) {
+            due("body(" + i + ") " + which, x.body(i), bodies[i]);
+        }
+        due("body(" + bodies.length + ") " + which, x.body(bodies.length), NONE);
     }
 
     private static void sheet() {
