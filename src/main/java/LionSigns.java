@@ -678,7 +678,7 @@ public final class LionSigns {
         }
 
         void take(int[] newSteps, int newLength) {
-            length = Math.min(newLength, Math.min(newSteps.length, steps.length));
+            length = Math.max(0, Math.min(newLength, Math.min(newSteps.length, steps.length)));
             System.arraycopy(newSteps, 0, steps, 0, length);
             Arrays.fill(memory, 0);
         }
@@ -718,10 +718,10 @@ public final class LionSigns {
                     value = step == -1 ? a : step == -2 ? b : c;
                 } else if (step == -'!') {
                     high--;
-                    value = high >= 0 && stack[high] == 0 ? 1 : 0;
+                    value = high >= 0 && high < stack.length && stack[high] == 0 ? 1 : 0;
                 } else {
                     high -= 2;
-                    value = high >= 0 ? join(-step, stack[high], stack[high + 1]) : 0;
+                    value = high >= 0 && high + 1 < stack.length ? join(-step, stack[high], stack[high + 1]) : 0;
                 }
                 if (high >= 0 && high < stack.length) {
                     stack[high] = value;
@@ -950,7 +950,7 @@ public final class LionSigns {
             for (int secret = 0; secret < SECRETS; secret++) {
                 lions.copyFrom(world.lions);
                 lions.secret = secret;
-                if (tells(world, sheet, lion)) {
+                if (fitting < SECRETS && tells(world, sheet, lion)) {
                     secrets[fitting] = secret;
                     fitting++;
                 }
@@ -989,9 +989,12 @@ public final class LionSigns {
             Arrays.fill(groups, 0);
             int greatest = 0;
             for (int i = 0; i < fitting; i++) {
-                int turn = turnBySigns[Lions.signsOf(lion, secrets[i], event)];
-                groups[turn]++;
-                greatest = Math.max(greatest, groups[turn]);
+                int signs = Lions.signsOf(lion, secrets[i], event);
+                int turn = signs < SIGN_COUNTS ? turnBySigns[signs] : -1;
+                if (turn >= 0 && turn <= HIGHEST_TURN) {
+                    groups[turn]++;
+                    greatest = Math.max(greatest, groups[turn]);
+                }
             }
             return greatest;
         }
