@@ -50,8 +50,9 @@ import javax.tools.StandardJavaFileManager;
 import javax.tools.ToolProvider;
 
 /**
- * The rules 2 to 13 of LANGUAGE.md, as javac reads the class: what the class has no need of (records, casts, texts
- * that are made ..) is refused here, too, where a rule would let some of it in. Rule 1 is FaceTests'.
+ * What of the rules 2 to 13 of LANGUAGE.md can be seen in the class as javac reads it: what the class has no need of
+ * (records, casts, texts that are made ..) is refused here, too, where a rule would let some of it in. Rule 1 is
+ * FaceTests', rule 7 WildTests'; of a loop (rule 9) no more is asked than a condition that compares.
  *
  * With a file's name it tells of that file instead.
  */
